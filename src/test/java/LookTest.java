@@ -480,7 +480,7 @@ public final class LookTest {
         x.particle(62, 0);
         x.particle(65, 2);
         Due.is("in one STEP", 40, () -> x.better(1, 1));
-        // Without 64 both that met there would pass: its two pushes are opposite.
+        // 64 is pushed once to the left and once to the right, 40 to the right alone.
         Due.is("in five", 40, () -> x.better(1, 5));
         Due.is("another BODY", Eddyhall.NONE, () -> x.better(0, 5));
         Due.is("nothing has changed: the CELL", Eddyhall.WALL, () -> x.cellOf(40, 0));
@@ -543,5 +543,12 @@ public final class LookTest {
         // From the INLET they come in a row: 40 is hit in the STEPS 5, 7 and 9, otherwise 41 in 6, 8 and 10.
         Due.is("particles that come in later", 40, () -> x.better(2, 9));
         Due.is("as many hits a STEP later", Eddyhall.NONE, () -> x.better(2, 10));
+        Eddyhall y = new Eddyhall();
+        y.wall(0, 0);
+        y.wall(95, 1);
+        y.particle(11, 0);
+        y.particle(94, 0);
+        Due.is("the first CELL", 0, () -> y.better(0, 1));
+        Due.is("the last CELL", 95, () -> y.better(1, 1));
     }
 }

@@ -8,6 +8,7 @@ public final class PassTest {
         promise10Hops();
         promise10Hits();
         promise10Openings();
+        promise10OpeningsAtTheEdge();
         promise10Order();
         promise10Reach();
         promise11Range();
@@ -17,6 +18,7 @@ public final class PassTest {
         promise12Range();
         promise12Meetings();
         promise12Moves();
+        promise12AtTheEdge();
         Due.end();
     }
 
@@ -188,6 +190,24 @@ public final class PassTest {
         x.particle(22, 1);
         x.step(1);
         Due.is("beside others of other WAYS", 1 + 2, () -> x.cellOf(10, 2));
+    }
+
+    private static void promise10OpeningsAtTheEdge() {
+        for (int cell : new int[] {0, 95}) {
+            Eddyhall x = new Eddyhall();
+            x.open(cell, Eddyhall.INLET);
+            x.step(1);
+            Due.is("INLET " + cell, 1, () -> x.cellOf(cell, 2));
+            x.clear(cell);
+            x.step(11);
+            x.ink(cell == 0 ? 11 : 94);
+            x.open(cell, Eddyhall.OUTLET);
+            Due.is("dyed", 1, () -> x.sum(3));
+            x.step(1);
+            Due.is("OUTLET " + cell, 0, () -> x.sum(2));
+            Due.is("no dyed one is left", 0, () -> x.sum(3));
+            Due.is("nothing is left there", 0, () -> x.cellOf(cell, 3));
+        }
     }
 
     private static void promise10Order() {
@@ -386,6 +406,10 @@ public final class PassTest {
         meets(9, 2, 9, 1, 6, 5, 6, 4);
         meets(5, 5, 5, 5, 5, 5, 5, 5);
         meets(1, 9, 2, 9, 4, 6, 5, 6);
+        meets(0, 30, 0, 2, 2, 28, 2, 0);
+        meets(30, 0, 2, 0, 28, 2, 0, 2);
+        meets(0, 2, 0, 30, 2, 0, 2, 28);
+        meets(2, 0, 30, 0, 0, 2, 28, 2);
     }
 
     private static void promise12Moves() {
@@ -411,5 +435,22 @@ public final class PassTest {
         Due.is("the WALL has none", 0, () -> x.cellOf(41, 4));
         x.flow(1);
         Due.is("they go on from there", 5, () -> x.cellOf(39, 6));
+    }
+
+    private static void promise12AtTheEdge() {
+        Eddyhall x = new Eddyhall();
+        x.bring(0, 0, 8);
+        x.bring(0, 2, 8);
+        x.bring(95, 1, 8);
+        x.bring(95, 3, 8);
+        x.flow(1);
+        Due.is("0: right", 4, () -> x.cellOf(1, 4));
+        Due.is("0: left", 4, () -> x.cellOf(11, 6));
+        Due.is("0: up is sent back", 4, () -> x.cellOf(0, 7));
+        Due.is("0: down", 4, () -> x.cellOf(12, 7));
+        Due.is("95: right", 4, () -> x.cellOf(84, 4));
+        Due.is("95: left", 4, () -> x.cellOf(94, 6));
+        Due.is("95: up", 4, () -> x.cellOf(83, 5));
+        Due.is("95: down is sent back", 4, () -> x.cellOf(95, 5));
     }
 }
