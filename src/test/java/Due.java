@@ -51,7 +51,7 @@ final class Due {
         fails(call, IllegalStateException.class, deed);
     }
 
-    private static void fails(String call, Class<?> want, Deed deed) {
+    static void fails(String call, Class<?> want, Deed deed) {
         looked++;
         try {
             deed.now();
