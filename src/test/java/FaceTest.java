@@ -48,6 +48,7 @@ public final class FaceTest {
         theClass();
         theMethods();
         theFields();
+        theClassesInside();
         Due.end();
     }
 
@@ -123,5 +124,33 @@ public final class FaceTest {
             }
         }
         Due.is("missing constants", 0, constants::size);
+    }
+
+    private static void theClassesInside() {
+        Set<String> types = new HashSet<>(Set.of("int", "long", "boolean", "int[]", "int[][]", "byte[][]"));
+        for (Class<?> inner : Eddyhall.class.getDeclaredClasses()) {
+            types.add(inner.getSimpleName());
+        }
+        fieldsOf(Eddyhall.class, types);
+        for (Class<?> inner : Eddyhall.class.getDeclaredClasses()) {
+            fieldsOf(inner, types);
+            for (Field field : inner.getDeclaredFields()) {
+                if (Modifier.isStatic(field.getModifiers())) {
+                    Due.tell("static inside: " + field);
+                }
+            }
+        }
+    }
+
+    private static void fieldsOf(Class<?> owner, Set<String> types) {
+        int many = 0;
+        for (Field field : owner.getDeclaredFields()) {
+            many += Modifier.isStatic(field.getModifiers()) ? 0 : 1;
+            if (!types.contains(field.getType().getSimpleName())) {
+                Due.tell("a field of another type: " + field);
+            }
+        }
+        int fields = many;
+        Due.is("at most twenty fields in " + owner, 1, () -> fields <= 20 ? 1 : 0);
     }
 }

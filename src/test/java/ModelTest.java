@@ -5,7 +5,7 @@ import java.util.Random;
 
 /** Long runs of calls, each answered by the class and by the model, with fixed seeds. */
 public final class ModelTest {
-    private static final int RUNS = 240;
+    private static final int RUNS = 300;
     private static final int CALLS = 300;
     private static final int PARTS = 4;
 
@@ -106,11 +106,40 @@ public final class ModelTest {
         for (int i = 0; i < particles; i++) {
             calls.add(of("particle", near(random), random.nextInt(4)));
         }
+        atALimit(random, calls);
         boolean isRare = random.nextBoolean();
         while (calls.size() < CALLS) {
             calls.add(random.nextInt(isRare ? 12 : 4) == 0 ? tell(random) : pass(random));
         }
         return calls;
+    }
+
+    /** Some runs begin close to a limit, so that they come to it from both sides. */
+    private static void atALimit(Random random, List<Asked> calls) {
+        switch (random.nextInt(10)) {
+            case 0:
+                for (int i = 0; i < 24; i++) {
+                    calls.add(of("step", 200));
+                }
+                calls.add(of("step", 170 + random.nextInt(30)));
+                break;
+            case 1:
+                for (int i = 0; i < 10; i++) {
+                    calls.add(of("bring", near(random), random.nextInt(4), 100000 - random.nextInt(9)));
+                }
+                break;
+            case 2:
+                for (int i = 0; i < 90; i++) {
+                    calls.add(of("wall", random.nextInt(96), random.nextInt(4)));
+                }
+                break;
+            case 3:
+                for (int i = 0; i < 4; i++) {
+                    calls.add(of("probe", near(random)));
+                }
+                break;
+            default:
+        }
     }
 
     private static Asked of(String name, int... args) {

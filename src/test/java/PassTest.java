@@ -266,15 +266,18 @@ public final class PassTest {
 
     private static Eddyhall crowd() {
         Eddyhall x = new Eddyhall();
+        int[] sets = new int[96];
         for (int i = 0; i < 6; i++) {
             x.wall(37 + 9 * i, i % 5 - 1);
+            sets[37 + 9 * i] = 15;
         }
         x.probe(30);
         for (int i = 0; i < 100; i++) {
             int cell = (i * 29 + i * i) % 96;
             int way = i / 3 % 4;
-            if (x.cellOf(cell, 0) == Eddyhall.FREE && (x.cellOf(cell, 2) >> way & 1) == 0) {
+            if ((sets[cell] >> way & 1) == 0) {
                 x.particle(cell, way);
+                sets[cell] |= 1 << way;
             }
             if (i % 4 == 0) {
                 x.ink(cell);
